@@ -1,13 +1,27 @@
+import java.util.function.Consumer;
+
 /** Compares answers with those that are due, prints the wrong ones, and ends a test with 1 if there was one. */
 final class Check {
     private int wrong = 0;
     private int asked = 0;
+    private int sentences = 0;
+    private String sentence = "";
+
+    /** A test of one sentence of the document: its wrong answers are printed with it, and it must ask something. */
+    void sentence(String words, Consumer<Check> test) {
+        int before = asked;
+        sentence = "[" + words + "] ";
+        test.accept(this);
+        due("questions asked", asked > before ? 1 : 0, 1);
+        sentence = "";
+        sentences++;
+    }
 
     void due(String call, long got, long want) {
         asked++;
         if (got != want) {
             wrong++;
-            System.out.println(call + " answered " + got + ", due is " + want);
+            System.out.println(sentence + call + " answered " + got + ", due is " + want);
         }
     }
 
@@ -19,7 +33,7 @@ final class Check {
     }
 
     void end() {
-        System.out.println(asked + " answers, " + wrong + " wrong");
+        System.out.println((sentences > 0 ? sentences + " sentences, " : "") + asked + " answers, " + wrong + " wrong");
         System.exit(wrong == 0 ? 0 : 1);
     }
 }
