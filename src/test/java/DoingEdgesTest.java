@@ -40,6 +40,7 @@ public final class DoingEdgesTest {
         check.sentence("Promise 17: As at the beginning", DoingEdgesTest::clearedAll);
         check.sentence("Promise 17: As at the beginning (what was held by none that is left)", DoingEdgesTest::clearedQueue);
         check.sentence("Promise 17: how many DEEDS were made", DoingEdgesTest::clearedMade);
+        check.sentence("What it is: at most 512 calls after it has been made", DoingEdgesTest::until512);
         check.end();
     }
 
@@ -610,5 +611,20 @@ public final class DoingEdgesTest {
         check.due("clear() again", x.clear(), 0);
         check.due("the next is the first", x.deed(0, 0, 1, 0, 0), 1);
         check.due("clear() behind one", x.clear(), 1);
+    }
+
+    private static void until512(Check check) {
+        LeverHall x = new LeverHall();
+        x.deed(0, 0, 1, 0, 0);
+        x.deed(19, 12, 0, 0, 0);
+        for (int call = 3; call <= 511; call++) {
+            check.due("call " + call, x.act(19, 1), call - 2);
+        }
+        check.due("call 512", x.count(19), 509);
+        LeverHall y = new LeverHall();
+        for (int call = 1; call <= 511; call++) {
+            check.due("call " + call, y.deed(call % 20, 0, call, 0, 0), call);
+        }
+        check.due("call 512", y.clear(), 511);
     }
 }

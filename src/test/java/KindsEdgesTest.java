@@ -517,10 +517,13 @@ public final class KindsEdgesTest {
         check.done("none is there when it is made", x, x.act(0, 1), 0, MISSING, 2);
         Halls.everyPlace(x, 4, 1);
         check.done("all are there", x, x.act(0, 1), 5, 0, 5);
+        x.deed(3, 13, 4, 0, 0);
         x.lever(4, 3, 2);
         check.done("another is there", x, x.act(0, 1), 6, 0, 5);
+        check.done("another than when it was made", x, x.act(3, 1), 6, 0, 5);
         x.lever(4, 3, -1);
         check.done("none is there again", x, x.act(0, 1), 0, MISSING, 5);
+        check.done("none, but there was when it was made", x, x.act(3, 1), 0, MISSING, 5);
     }
 
     private static void pullMissing(Check check) {
@@ -542,11 +545,13 @@ public final class KindsEdgesTest {
             x.deed(1, 14, slot, 0, 0);
             x.deed(slot, 0, 5, 0, 0);
             check.done("LOOK at slot " + slot, x, x.act(1, 1), 5, 0, 2);
+            x.deed(2, 14, slot, 0, 0);
             x.deed(slot, 5, 2, 0, 0);
             check.done("LOOK at another, with p", x, x.act(1, 9), 4, 0, 2);
-            x.copy(1, 2);
+            check.done("LOOK that was made when there was one", x, x.act(2, 9), 4, 0, 2);
+            x.copy(1, 3);
             x.drop(1);
-            check.done("LOOK from another slot", x, x.act(2, 8), 4, 0, 2);
+            check.done("LOOK from another slot", x, x.act(3, 8), 4, 0, 2);
         }
     }
 
@@ -557,8 +562,10 @@ public final class KindsEdgesTest {
             check.done("LOOK at slot " + slot, x, x.act(1, 1), 0, MISSING, 2);
             x.deed(slot, 0, 5, 0, 0);
             check.done("LOOK when it is there", x, x.act(1, 1), 5, 0, 2);
+            x.deed(2, 14, slot, 0, 0);
             x.drop(slot);
             check.done("LOOK when it is not any more", x, x.act(1, 1), 0, MISSING, 2);
+            check.done("LOOK that was made when it was there", x, x.act(2, 1), 0, MISSING, 2);
         }
         for (int slot : Halls.NO_SLOTS) {
             check.due("LOOK at slot " + slot, x.deed(1, 14, slot, 0, 0), LeverHall.BAD);
