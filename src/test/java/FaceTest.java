@@ -25,6 +25,10 @@ public final class FaceTest {
             } else {
                 check.due(method + " is public alone", method.getModifiers(), Modifier.PUBLIC);
                 check.due(method + " gives an int", method.getReturnType() == int.class ? 1 : 0, 1);
+                for (Class<?> type : method.getParameterTypes()) {
+                    check.due(method + " takes ints", type == int.class ? 1 : 0, 1);
+                }
+                check.due(method + " names no exception", method.getExceptionTypes().length, 0);
                 methods.add(method.getName() + " " + method.getParameterCount());
             }
         }
